@@ -132,6 +132,7 @@ public final class GuessTest {
         DUE.is("4 is less than 5 more", x.two(0, 1, 1), 0);
         x = Due.told("v15001;v00001;s000;");
         DUE.is("5 is as much as 5 more", x.two(0, 1, 1), 0);
+        DUE.is("5 is as much as 5 more, turned", x.two(1, 0, 1), 0);
         x = Due.told("v16001;v00001;s000;");
         DUE.is("6 is more", x.two(0, 1, 1), 10);
         DUE.is("behind 30 days", x.two(0, 1, 30), 0);
@@ -139,38 +140,10 @@ public final class GuessTest {
     }
 
     private static void twoWithoutPair() {
-        ChairOnTheRoad x = new ChairOnTheRoad();
-        boolean found = false;
-        // Looked for by trying: a pair of two bakers of which one always wants it otherwise.
-        for (int s = 0; s < 40 && !found; s++) {
-            for (int f = 0; f < 100 && !found; f++) {
-                x = Due.told("v1" + f / 10 + "001;v1" + f % 10 + "000;s000;k0" + two(s) + ";k1" + two(39 - s) + ";");
-                found = x.two(0, 1, 3) == -4;
-            }
-        }
-        if (found) {
-            boolean stable = false;
-            for (int pair = 0; pair < 4; pair++) {
-                boolean one = pay(x, pair, 3, 0) >= pay(x, pair ^ 2, 3, 0);
-                boolean other = pay(x, pair, 3, 1) >= pay(x, pair ^ 1, 3, 1);
-                stable |= one && other;
-            }
-            DUE.is("a pair where -4 is told", stable ? 1 : 0, 0);
-        }
-    }
-
-    private static String two(int n) {
-        return "" + n / 10 + n % 10;
-    }
-
-    private static int pay(ChairOnTheRoad x, int pair, int n, int who) {
-        int first = x.fetches(0, pair >> 1 == 0 ? 0 : 1);
-        int second = x.fetches(1, (pair & 1) == 0 ? 1 : 0);
-        int choice = who == 0 ? pair >> 1 : pair & 1;
-        int pay = x.stockThen(who, n) + (choice == 0 ? 5 : 0);
-        x.fetches(0, first);
-        x.fetches(1, second);
-        return pay;
+        // What they have, with the 5 for staying: of 00 7 and 40, of 01 5 and 39, of 10 8 and 34, of 11 2 and 35.
+        ChairOnTheRoad x = Due.told("v21001;v79000;s000;k008;k138;");
+        DUE.is("one always wants it otherwise", x.two(0, 1, 3), -4);
+        DUE.is("turned", x.two(1, 0, 3), -4);
     }
 
     private static void rain(ChairOnTheRoad x, int n, int t, long above, long below) {
@@ -237,6 +210,9 @@ public final class GuessTest {
         ChairOnTheRoad x = new ChairOnTheRoad();
         DUE.is("mean(0) of none", x.mean(0), 0);
         DUE.is("mean(1) of none", x.mean(1), 1);
+        x = Due.told("v00000;k018;");
+        DUE.is("mean(0) of one", x.mean(0), 18);
+        DUE.is("mean(1) of one", x.mean(1), 1);
         x = Due.told("v00000;v00000;v00000;v00000;k011;");
         DUE.is("mean(0) of 41 by 4", x.mean(0), 41);
         DUE.is("mean(1) of 41 by 4", x.mean(1), 4);
@@ -297,8 +273,9 @@ public final class GuessTest {
         x.put(0, 99, 1);
         DUE.is("the hundredth is not so", x.judge(0), 99);
         DUE.is("the day stays", x.count(1), 0);
-        Due.row(x, 0, 0, 0);
-        DUE.is("no villages, no stock", new ChairOnTheRoad().count(4), 0);
+        ChairOnTheRoad empty = new ChairOnTheRoad();
+        Due.row(empty, 0, 0, 0, 0, 1);
+        DUE.is("no villages, no stock", empty.judge(0), 2);
     }
 
     private static void years() {

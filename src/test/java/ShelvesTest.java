@@ -213,6 +213,8 @@ public final class ShelvesTest {
         x.row(5, 2, 3);
         DUE.is("bytes to shorts", x.copy(4, 0, 0, 0, 1), -12);
         DUE.is("ints to shorts", x.copy(5, 0, 0, 0, 1), -12);
+        DUE.is("bytes to a kind", x.copy(4, 0, 3, 0, 0), -12);
+        DUE.is("a kind to bytes", x.copy(3, 0, 4, 0, 0), -12);
         DUE.is("-12 ahead of -13", x.copy(4, -1, 0, 0, 1), -12);
         DUE.is("from behind the end", x.copy(0, 2, 1, 0, 2), -13);
         DUE.is("to behind the end", x.copy(0, 0, 1, 1, 2), -13);

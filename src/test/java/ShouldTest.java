@@ -164,6 +164,12 @@ public final class ShouldTest {
         DUE.is("behind 0 days", x.feed(0), 1);
         DUE.is("stock stays", x.village(1, 4), 0);
         DUE.is("feed of none", new ChairOnTheRoad().feed(5), -4);
+        x = Due.told("v10000;k005;");
+        DUE.is("5 and 20 by ones lasts 24 days", x.feed(24), 0);
+        DUE.is("5 and 20 by ones is gone behind 25", x.feed(25), -4);
+        x = Due.told("v00000;v00001;v00002;v00003;v00004;v00005;v00006;k600;k507;");
+        DUE.is("the last of seven", x.feed(0), 6);
+        DUE.is("the first of the hungry", x.feed(4), 5);
         // 99 at most: 95 and 20 more is 99, gone behind 50 days.
         x = Due.told("v00000;k095;");
         DUE.is("99 lasts 49 days", x.feed(49), 0);

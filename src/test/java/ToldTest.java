@@ -56,6 +56,7 @@ public final class ToldTest {
         DUE.is("the text stays", x.element(0, 0), 'd');
         DUE.is("told again", x.province(0), 1);
         DUE.is("day then", x.count(1), 6);
+        DUE.is("a sun of 0 and 0 ahead", Due.text(x, 0, "s000;s101;"), 2);
         DUE.is("each on what those ahead made", Due.text(x, 0, "f10;v00000;"), -2000);
         DUE.is("each on what those ahead made", Due.text(x, 0, "v00000;f10;"), 2);
     }
