@@ -8,6 +8,7 @@ public final class EdgeGuessTest {
         whereSatSkipped();
         whereSatAsNow();
         whereSatLeastAndGreatest();
+        whereSatHowMany();
         whereSatRefused();
         whereSatShelf();
         whatIsSkipped();
@@ -16,6 +17,7 @@ public final class EdgeGuessTest {
         whatIsRefused();
         whatIsShelf();
         twoForStaying();
+        twoGoesAsItDoes();
         twoFirstPair();
         twoNone();
         twoDays();
@@ -39,6 +41,7 @@ public final class EdgeGuessTest {
         yearsOfTwelveDays();
         yearsNods();
         yearsDraw();
+        yearsDrawBelow12();
         yearsRefused();
         EDGE.end(27, 34);
     }
@@ -107,6 +110,17 @@ public final class EdgeGuessTest {
         x.sits(11);
         Due.row(x, 0, 0, 11, 4);
         sat("a step of 5 from 11", x, 12, 500, 511);
+    }
+
+    private static void whereSatHowMany() {
+        EDGE.of(27, "how many of all twos of STEP and HOME make it so");
+        ChairOnTheRoad x = Due.told("d09;c06;");
+        int[][] told = {{}, {6}, {6, 8}, {6, 8, 10}, {6, 8, 10, 0}, {6, 8, 10, 0, 2}, {6, 8, 10, 0, 3}, {6, 8, 10, -128, 1}, {7}};
+        int[] many = {72, 72, 12, 12, 1, 1, 0, 1, 0};
+        for (int i = 0; i < told.length; i++) {
+            Due.row(x, 0, 0, told[i]);
+            EDGE.is("row " + i, x.whereSat(0, 0), many[i]);
+        }
     }
 
     private static void whereSatRefused() {
@@ -233,6 +247,23 @@ public final class EdgeGuessTest {
             EDGE.is("figure " + figure, x.two(0, 1, 1), due[figure]);
             EDGE.is("figure " + figure + ", turned", x.two(1, 0, 1), due[figure] / 10);
         }
+    }
+
+    private static void twoGoesAsItDoes() {
+        EDGE.of(29, "each goes (1) as it does or stays (0: it fetches from itself)");
+        ChairOnTheRoad x = Due.told("v19000;v19001;v30002;s000;k299;");
+        EDGE.is("both fetch from themselves", x.two(0, 1, 9), 0);
+        x.fetches(0, 6);
+        x.fetches(1, 3);
+        EDGE.is("both fetch from nobody", x.two(0, 1, 9), 0);
+        x.fetches(1, 2);
+        EDGE.is("one fetches from a third", x.two(0, 1, 9), 1);
+        x.fetches(0, 2);
+        EDGE.is("both fetch from a third", x.two(0, 1, 1), 11);
+        x.stocks(2, 9);
+        // The first takes all of the 9, so the other has nothing of it and 5 for staying.
+        EDGE.is("there is enough for one", x.two(0, 1, 1), 10);
+        EDGE.is("there is enough for one, turned", x.two(1, 0, 1), 1);
     }
 
     private static void twoFirstPair() {
@@ -611,6 +642,20 @@ public final class EdgeGuessTest {
         // Seed -1 draws 5 (by a z below 0), 5, 10: a doctor that goes nowhere fetches at 5.
         EDGE.is("seed -1, a doctor that goes 4", Due.told("v30000;v20000;v24000;k050;").years(1, -1, 0), 36);
         EDGE.is("seed -1, a doctor that goes 5", Due.told("v30000;v20000;v25000;k050;").years(1, -1, 0), 22);
+    }
+
+    private static void yearsDrawBelow12() {
+        EDGE.of(34, "PLACE of each VILLAGE, by numbers, a DRAW below 12");
+        int drawn = 0;
+        for (int seed = 0; seed < 200; seed++) {
+            int first = next(seed);
+            int far = Math.abs(below12(first) - below12(next(first)));
+            drawn |= 1 << below12(first);
+            // The doctor of figure 1 fetches and eats 24 of the 50 if it is drawn 1 or less from the hearse, else its own 10.
+            ChairOnTheRoad x = Due.told("v30000;v21000;k050;");
+            EDGE.is("years(1, " + seed + ", 0)", x.years(1, seed, 0), far <= 1 || far == 11 ? 36 : 50);
+        }
+        EDGE.is("all places were drawn", drawn, 4095);
     }
 
     private static void yearsRefused() {

@@ -43,6 +43,11 @@ public final class EdgeShelvesTest {
         tossBishops();
         tossNone();
         tossRefused();
+        anotherKind();
+        failureThatIsNone();
+        noSuchOne();
+        notAsItMustBe();
+        none();
         nothingChanges();
         last512thCall();
         EDGE.end(35, 44);
@@ -600,6 +605,60 @@ public final class EdgeShelvesTest {
         for (int sort = 0; sort < 3; sort++) {
             x.row(7, sort, 100);
             EDGE.is("toss of a row of sort " + sort, x.toss(7), -12);
+        }
+    }
+
+    private static void anotherKind() {
+        EDGE.of(43, "-12 it is of another kind");
+        ChairOnTheRoad x = Due.told("v00000;");
+        x.row(0, 1, 1);
+        x.row(1, 2, 1);
+        x.keep(2, 1, 0, 1);
+        int[] rows = {x.cost(0), x.toss(0), x.comes(0, 0), x.province(0), x.copy(0, 0, 1, 0, 1)};
+        for (int i = 0; i < rows.length; i++) {
+            EDGE.is("a row, call " + i, rows[i], -12);
+        }
+        int[] kinds = {x.put(2, 0, 0), x.province(2), x.copy(2, 0, 2, 0, 1), x.whereSat(2, 0), x.whatIs(2, 0, 0), x.forged(2),
+            x.judge(2)};
+        for (int i = 0; i < kinds.length; i++) {
+            EDGE.is("a kind, call " + i, kinds[i], -12);
+        }
+    }
+
+    private static void failureThatIsNone() {
+        EDGE.of(44, "-15 a FAILURE that is none");
+        ChairOnTheRoad x = new ChairOnTheRoad();
+        x.keep(0, 1, 5, 9);
+        EDGE.is("a pedlar", x.toss(0), -15);
+        x.keep(0, 1, 6, 0);
+        EDGE.is("an army of figure 0", x.toss(0), -15);
+        EDGE.is("it stays", x.cost(0), 11);
+    }
+
+    private static void noSuchOne() {
+        EDGE.of(37, "-1 no such one, one twice, a number out of its range");
+        ChairOnTheRoad x = Due.told("v00000;v00000;");
+        EDGE.is("no such village", x.village(2, 0), -1);
+        EDGE.is("no such shelf", x.cost(8), -1);
+        EDGE.is("one twice", x.two(1, 1, 0), -1);
+        EDGE.is("a number out of its range", x.count(7), -1);
+    }
+
+    private static void notAsItMustBe() {
+        EDGE.of(36, "-3 it is not as it must be");
+        ChairOnTheRoad x = Due.told("d60;".repeat(16) + "d39;");
+        EDGE.is("no image", x.restore(), -3);
+        EDGE.is("no day", x.days(1), -3);
+    }
+
+    private static void none() {
+        EDGE.of(35, "-4 none.");
+        ChairOnTheRoad x = Due.told("v30000;");
+        x.row(0, 0, 0);
+        int[] none = {x.village(0, 5), x.firstCan(0), x.hungry(0), x.hungry(-1), x.fetch(0, 60), x.match(-1), x.match(0),
+            x.feed(60), x.forged(0), x.judge(0)};
+        for (int i = 0; i < none.length; i++) {
+            EDGE.is("call " + i, none[i], -4);
         }
     }
 

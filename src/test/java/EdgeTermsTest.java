@@ -27,6 +27,7 @@ public final class EdgeTermsTest {
         nodsByKind();
         canJust();
         canFromAnother();
+        dayIsOneMore();
         chairOfADay();
         villagesByNumbers();
         byWhereTheChairIsThen();
@@ -342,6 +343,19 @@ public final class EdgeTermsTest {
         EDGE.is("from itself", x.village(1, 6), 0);
         x.fetches(1, 2);
         EDGE.is("from one that is not there", x.village(1, 6), 0);
+    }
+
+    private static void dayIsOneMore() {
+        EDGE.of(10, "A DAY: DAY is 1 more");
+        ChairOnTheRoad x = new ChairOnTheRoad();
+        x.days(1);
+        EDGE.is("behind 1", x.count(1), 1);
+        x.days(60);
+        EDGE.is("behind 60 more", x.count(1), 61);
+        x = Due.told("v60000;s000;d11;");
+        EDGE.is("an army's way on day 11", x.way(0, 0), 1);
+        x.days(1);
+        EDGE.is("an army's way on day 12", x.way(0, 0), 0);
     }
 
     private static void chairOfADay() {
