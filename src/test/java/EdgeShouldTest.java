@@ -30,6 +30,7 @@ public final class EdgeShouldTest {
         matchFirst();
         matchLeastTogether();
         matchOfSeven();
+        matchOfFewerAgain();
         matchRefused();
         matchRefusalsInOrder();
         feed99AtMost();
@@ -381,6 +382,21 @@ public final class EdgeShouldTest {
                 tryAll(places, from, v + 1, sum + Math.min(apart, 12 - apart), least, first);
             }
         }
+    }
+
+    private static void matchOfFewerAgain() {
+        EDGE.of(22, "RESTORED all is as it was then.");
+        ChairOnTheRoad x = Due.told("v20000;v20030;");
+        x.image();
+        for (int place : new int[] {6, 9, 1, 7, 4}) {
+            x.keep(0, 1, 2, 0);
+            x.comes(0, place);
+            EDGE.isTrue("of more", x.match(-1) > 0);
+        }
+        x.restore();
+        EDGE.is("of two again: how much", x.match(-1), 6);
+        EDGE.is("of two again: 0 from", x.match(0), 1);
+        EDGE.is("of two again: 1 from", x.match(1), 0);
     }
 
     private static void matchRefused() {
